@@ -21,6 +21,9 @@ final class ModelTest {
 
     public static void main(String[] args) {
         Check check = new Check();
+        for (int u = 10; u <= 200; u++) {
+            allPaper(check, u);
+        }
         for (int run = 0; run < RUNS && !check.isWrong(); run++) {
             ModelTest test = new ModelTest(check, run);
             // Runs differ in what they do most, else long ways and full routes would be rare.
@@ -30,6 +33,28 @@ final class ModelTest {
             }
         }
         check.end();
+    }
+
+    /** All places on all papers of a U: a sine that is off by one shows for few U alone. */
+    private static void allPaper(Check check, int u) {
+        for (int i = 0; i < 6; i++) {
+            GoreGlobe globe = new GoreGlobe();
+            Model model = new Model();
+            int strips = Model.NUMBERS[i];
+            int caps = (u + i) % 4;
+            check.due("tell", globe.tell(0, u), model.tell(0, u));
+            check.due("tell", globe.tell(1, strips), model.tell(1, strips));
+            check.due("tell", globe.tell(2, caps), model.tell(2, caps));
+            for (int p = 0; p < 13 * 24 * 5; p++) {
+                int l = p / 120 - 6;
+                int m = p / 5 % 24;
+                String told = u + " " + strips + " " + caps + ": flat " + l + " " + m + " " + p % 5;
+                check.due(told, globe.flat(l, m, p % 5), model.flat(l, m, p % 5));
+            }
+            for (int what = 0; what <= 2; what++) {
+                check.due("worst " + u + " " + strips + " " + caps, globe.worst(what), model.worst(what));
+            }
+        }
     }
 
     private int group(int kind) {

@@ -201,6 +201,8 @@ final class WaysTest {
         lost("a pole, all lost", globe, 10, 0, 1);
         globe.tell(1, 2);
         lost("a pole of two strips", globe, 3, 91, 100);
+        Check.read(globe, "-6:0");
+        lost("the south pole", globe, 3, 91, 100);
         globe.land(122, 1);
         lost("a pole and a place", globe, 3, 7, 10);
         globe.tell(2, 3);
