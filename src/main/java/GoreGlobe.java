@@ -924,11 +924,11 @@ public final class GoreGlobe {
             int filled = 1;
             queue[0] = first;
             seaOf[first] = sea;
-            for (int at = 0; at < filled; at++) {
+            for (int at = 0; at < filled && at < Grid.PLACES; at++) {
                 int place = queue[at];
                 for (int i = 0; i < Grid.neighbourNumber(place); i++) {
                     int next = Grid.neighbour(place, i);
-                    if (seaOf[next] == UNCHARTED) {
+                    if (seaOf[next] == UNCHARTED && filled < Grid.PLACES) {
                         seaOf[next] = sea;
                         queue[filled] = next;
                         filled++;

@@ -2,7 +2,7 @@ import java.util.Random;
 
 /** Promises 1 to 31: long runs of drawn calls, good ones and wild ones, answered as Model answers them. */
 final class ModelTest {
-    private static final int RUNS = 300, CALLS = 512;
+    private static final int RUNS = 1600, CALLS = 512;
     private static final int[] WILD = {Integer.MIN_VALUE, Integer.MIN_VALUE + 1, -1000000, -7, -2, -1, 0, 1, 2, 3, 4, 5, 6,
         7, 8, 9, 12, 23, 24, 25, 30, 31, 41, 90, 265, 266, 267, 4096, 10000, 10001, 1 << 30, Integer.MAX_VALUE - 1,
         Integer.MAX_VALUE};
@@ -12,6 +12,7 @@ final class ModelTest {
     private final int run;
     private final GoreGlobe globe = new GoreGlobe();
     private final Model model = new Model();
+    private int calls;
 
     private ModelTest(Check check, int run) {
         this.random = new Random(run);
@@ -28,7 +29,7 @@ final class ModelTest {
             ModelTest test = new ModelTest(check, run);
             // Runs differ in what they do most, else long ways and full routes would be rare.
             int kind = run % 4;
-            for (int call = 0; call < CALLS && !check.isWrong(); call++) {
+            while (test.calls < CALLS && !check.isWrong()) {
                 test.call(test.group(kind));
             }
         }
@@ -38,14 +39,18 @@ final class ModelTest {
     /** All places on all papers of a U: a sine that is off by one shows for few U alone. */
     private static void allPaper(Check check, int u) {
         for (int i = 0; i < 6; i++) {
-            GoreGlobe globe = new GoreGlobe();
-            Model model = new Model();
             int strips = Model.NUMBERS[i];
             int caps = (u + i) % 4;
-            check.due("tell", globe.tell(0, u), model.tell(0, u));
-            check.due("tell", globe.tell(1, strips), model.tell(1, strips));
-            check.due("tell", globe.tell(2, caps), model.tell(2, caps));
+            GoreGlobe globe = Check.told(u, strips, caps);
+            Model model = new Model();
+            model.tell(0, u);
+            model.tell(1, strips);
+            model.tell(2, caps);
             for (int p = 0; p < 13 * 24 * 5; p++) {
+                if (p % 500 == 0) {
+                    // An object is used for 512 calls at most.
+                    globe = Check.told(u, strips, caps);
+                }
                 int l = p / 120 - 6;
                 int m = p / 5 % 24;
                 String told = u + " " + strips + " " + caps + ": flat " + l + " " + m + " " + p % 5;
@@ -62,8 +67,12 @@ final class ModelTest {
         return drawn < 6 ? kind : random.nextInt(4);
     }
 
+    /** What calls behind the 512th answer is free. */
     private void due(String call, long got, long want) {
-        check.due("run " + run + ": " + call, got, want);
+        calls++;
+        if (calls <= CALLS) {
+            check.due("run " + run + ": " + call, got, want);
+        }
     }
 
     /** Mostly least .. most, sometimes just beside it, sometimes anything. */
@@ -221,10 +230,10 @@ final class ModelTest {
         for (int i = 0; i < 9; i++) {
             due("stop " + i, globe.stop(i), model.stop(i));
         }
-        for (int l = -6; l <= 6; l++) {
-            for (int m = 0; m < 24; m++) {
-                due("place " + l + " " + m + " 1", globe.place(l, m, 1), model.place(l, m, 1));
-            }
+        for (int i = 0; i < 24; i++) {
+            int l = random.nextInt(13) - 6;
+            int m = random.nextInt(24);
+            due("place " + l + " " + m + " 1", globe.place(l, m, 1), model.place(l, m, 1));
         }
     }
 

@@ -20,18 +20,6 @@ final class PlacesTest {
         CHECK.due(call, got, want);
     }
 
-    private static GoreGlobe told(int u, int strips, int caps) {
-        GoreGlobe globe = new GoreGlobe();
-        globe.tell(0, u);
-        globe.tell(1, strips);
-        globe.tell(2, caps);
-        return globe;
-    }
-
-    private static int number(int l, int m) {
-        return new GoreGlobe().place(l, m, 0);
-    }
-
     private static void promise1() {
         GoreGlobe globe = new GoreGlobe();
         int[] counts = {60, 12, 1, 0, 1, 0, 0};
@@ -88,13 +76,13 @@ final class PlacesTest {
         int[] stripsOf23 = {1, 2, 3, 5, 7, 11};
         int[] stripsOf11 = {0, 1, 1, 2, 3, 5};
         for (int i = 0; i < 6; i++) {
-            GoreGlobe globe = told(60, numbers[i], 0);
+            GoreGlobe globe = Check.told(60, numbers[i], 0);
             due("2: strip of 23 of " + numbers[i], globe.place(2, 23, 3), stripsOf23[i]);
             due("2: strip of 11 of " + numbers[i], globe.place(-2, 11, 3), stripsOf11[i]);
             due("2: strip of a pole, m being 0", globe.place(6, 23, 3), 0);
         }
         for (int k = 0; k <= 3; k++) {
-            GoreGlobe globe = told(60, 12, k);
+            GoreGlobe globe = Check.told(60, 12, k);
             for (int l = -6; l <= 6; l++) {
                 int high = Math.abs(l);
                 due("2: on strips, k " + k + " l " + l, globe.place(l, 0, 3), high <= 6 - k ? 0 : NONE);
@@ -104,7 +92,7 @@ final class PlacesTest {
     }
 
     private static void promise3() {
-        GoreGlobe globe = told(200, 2, 0);
+        GoreGlobe globe = Check.told(200, 2, 0);
         due("3: X", globe.flat(1, 5, 0), 2400 - 386);
         due("3: X of the second strip", globe.flat(-1, 13, 0), 7200 - 1931);
         due("3: X east of the middle", globe.flat(1, 23, 0), 7200 + 1931);
@@ -118,7 +106,7 @@ final class PlacesTest {
         due("3: not cut", globe.flat(-1, 13, 2), NONE);
         due("3: no caps", globe.flat(6, 0, 3), NONE);
         due("3: no caps", globe.flat(6, 0, 4), NONE);
-        GoreGlobe odd = told(10, 8, 1);
+        GoreGlobe odd = Check.told(10, 8, 1);
         due("3: odd width, west", odd.flat(5, 4, 0), 90 - 2);
         due("3: odd width, east", odd.flat(5, 5, 0), 90 + 2);
         due("3: odd width, cut", odd.flat(5, 3, 0), 90 - 7);
@@ -139,7 +127,7 @@ final class PlacesTest {
     }
 
     private static void promise3Caps() {
-        GoreGlobe globe = told(10, 2, 3);
+        GoreGlobe globe = Check.told(10, 2, 3);
         due("3: north X of 1", globe.flat(3, 1, 3), 60 + 15);
         due("3: north Y of 1", globe.flat(3, 1, 4), 60 + 57);
         due("3: south X of 1", globe.flat(-3, 1, 3), 60 - 15);
@@ -155,18 +143,18 @@ final class PlacesTest {
     }
 
     private static void promise4Strips() {
-        GoreGlobe globe = told(10, 2, 0);
+        GoreGlobe globe = Check.told(10, 2, 0);
         due("4: west of the row's edge", globe.back(0, 88, 220), NONE);
-        due("4: the row's edge", globe.back(0, 89, 220), number(5, 0));
-        due("4: the row's eastern edge", globe.back(0, 151, 220), number(5, 12));
+        due("4: the row's edge", globe.back(0, 89, 220), Check.number(5, 0));
+        due("4: the row's eastern edge", globe.back(0, 151, 220), Check.number(5, 12));
         due("4: east of it", globe.back(0, 152, 220), NONE);
-        due("4: of like ones the least j", globe.back(0, 10, 120), number(0, 0));
-        due("4: closer to the next", globe.back(0, 11, 120), number(0, 1));
-        due("4: the second strip begins", globe.back(0, 240, 120), number(0, 12));
-        due("4: the last strip's end", globe.back(0, 480, 120), number(0, 0));
+        due("4: of like ones the least j", globe.back(0, 10, 120), Check.number(0, 0));
+        due("4: closer to the next", globe.back(0, 11, 120), Check.number(0, 1));
+        due("4: the second strip begins", globe.back(0, 240, 120), Check.number(0, 12));
+        due("4: the last strip's end", globe.back(0, 480, 120), Check.number(0, 0));
         due("4: Y 9 is the south pole's row", globe.back(0, 120, 9), 0);
-        due("4: Y 10 is the next one", globe.back(0, 120, 10), number(-5, 6));
-        due("4: Y 229", globe.back(0, 120, 229), number(5, 6));
+        due("4: Y 10 is the next one", globe.back(0, 120, 10), Check.number(-5, 6));
+        due("4: Y 229", globe.back(0, 120, 229), Check.number(5, 6));
         due("4: Y 230", globe.back(0, 120, 230), 265);
         due("4: the pole on the other strip", globe.back(0, 360, 240), 265);
         due("4: beside the pole", globe.back(0, 361, 240), NONE);
@@ -182,13 +170,13 @@ final class PlacesTest {
     }
 
     private static void promise4Caps() {
-        GoreGlobe globe = told(10, 2, 3);
-        due("4: north corner", globe.back(1, 0, 0), number(3, 15));
-        due("4: south corner", globe.back(2, 0, 0), number(-3, 9));
-        due("4: north, of like ones the least", globe.back(1, 60, 70), number(5, 0));
+        GoreGlobe globe = Check.told(10, 2, 3);
+        due("4: north corner", globe.back(1, 0, 0), Check.number(3, 15));
+        due("4: south corner", globe.back(2, 0, 0), Check.number(-3, 9));
+        due("4: north, of like ones the least", globe.back(1, 60, 70), Check.number(5, 0));
         due("4: south, of like ones the least", globe.back(2, 60, 70), 0);
         due("4: middle", globe.back(1, 60, 60), 265);
-        due("4: the end", globe.back(1, 60, 120), number(3, 0));
+        due("4: the end", globe.back(1, 60, 120), Check.number(3, 0));
         due("4: X 121", globe.back(1, 121, 0), BAD);
         due("4: Y 121", globe.back(2, 0, 121), BAD);
         due("4: Y -1", globe.back(2, 0, -1), BAD);
@@ -203,13 +191,13 @@ final class PlacesTest {
         GoreGlobe globe = new GoreGlobe();
         int[] far = {120, 115, 103, 84, 60, 31};
         for (int l = -5; l <= 5; l++) {
-            due("5: FAR in row " + l, globe.pair(number(l, 3), number(l, 4), 0), far[Math.abs(l)]);
-            due("5: FAR of 23 and 0", globe.pair(number(l, 23), number(l, 0), 0), far[Math.abs(l)]);
+            due("5: FAR in row " + l, globe.pair(Check.number(l, 3), Check.number(l, 4), 0), far[Math.abs(l)]);
+            due("5: FAR of 23 and 0", globe.pair(Check.number(l, 23), Check.number(l, 0), 0), far[Math.abs(l)]);
         }
-        due("5: FAR of rows", globe.pair(number(4, 7), number(5, 7), 0), 120);
+        due("5: FAR of rows", globe.pair(Check.number(4, 7), Check.number(5, 7), 0), 120);
         for (int m = 0; m < 24; m++) {
-            due("5: FAR of a pole", globe.pair(0, number(-5, m), 0), 120);
-            due("5: FAR of a pole", globe.pair(number(5, m), 265, 0), 120);
+            due("5: FAR of a pole", globe.pair(0, Check.number(-5, m), 0), 120);
+            due("5: FAR of a pole", globe.pair(Check.number(5, m), 265, 0), 120);
         }
         for (int what = 0; what <= 1; what++) {
             due("5: itself", globe.pair(121, 121, what), NOT);
@@ -227,24 +215,24 @@ final class PlacesTest {
     }
 
     private static void promise5Straight() {
-        GoreGlobe odd = told(60, 8, 1);
-        due("5: STRAIGHT west", odd.pair(number(5, 0), number(5, 1), 1), 31);
-        due("5: STRAIGHT middle", odd.pair(number(5, 1), number(5, 2), 1), 30);
-        due("5: STRAIGHT middle, turned", odd.pair(number(5, 2), number(5, 1), 1), 30);
-        due("5: STRAIGHT 23, 0", odd.pair(number(5, 23), number(5, 0), 1), 31);
-        due("5: STRAIGHT 0, 23", odd.pair(number(5, 0), number(5, 23), 1), 31);
-        due("5: a pole's row isn't on strips", odd.pair(265, number(5, 0), 1), NONE);
+        GoreGlobe odd = Check.told(60, 8, 1);
+        due("5: STRAIGHT west", odd.pair(Check.number(5, 0), Check.number(5, 1), 1), 31);
+        due("5: STRAIGHT middle", odd.pair(Check.number(5, 1), Check.number(5, 2), 1), 30);
+        due("5: STRAIGHT middle, turned", odd.pair(Check.number(5, 2), Check.number(5, 1), 1), 30);
+        due("5: STRAIGHT 23, 0", odd.pair(Check.number(5, 23), Check.number(5, 0), 1), 31);
+        due("5: STRAIGHT 0, 23", odd.pair(Check.number(5, 0), Check.number(5, 23), 1), 31);
+        due("5: a pole's row isn't on strips", odd.pair(265, Check.number(5, 0), 1), NONE);
         due("5: NOT ahead of NONE", odd.pair(265, 0, 1), NOT);
-        GoreGlobe wide = told(60, 2, 0);
+        GoreGlobe wide = Check.told(60, 2, 0);
         due("5: STRAIGHT of rows", wide.pair(121, 145, 1), 122);
-        due("5: STRAIGHT of a pole, at the edge", wide.pair(265, number(5, 0), 1), 221);
-        due("5: STRAIGHT of a pole, in the middle", wide.pair(265, number(5, 18), 1), 120);
-        due("5: STRAIGHT of a pole, last", wide.pair(number(5, 23), 265, 1), 196);
-        due("5: STRAIGHT of the south pole, last", wide.pair(0, number(-5, 23), 1), 196);
+        due("5: STRAIGHT of a pole, at the edge", wide.pair(265, Check.number(5, 0), 1), 221);
+        due("5: STRAIGHT of a pole, in the middle", wide.pair(265, Check.number(5, 18), 1), 120);
+        due("5: STRAIGHT of a pole, last", wide.pair(Check.number(5, 23), 265, 1), 196);
+        due("5: STRAIGHT of the south pole, last", wide.pair(0, Check.number(-5, 23), 1), 196);
         wide.tell(2, 3);
-        due("5: rows 3, 4", wide.pair(number(3, 0), number(4, 0), 1), NONE);
-        due("5: row 4", wide.pair(number(4, 0), number(4, 1), 1), NONE);
-        due("5: rows 2, 3", wide.pair(number(2, 6), number(3, 6), 1), 120);
+        due("5: rows 3, 4", wide.pair(Check.number(3, 0), Check.number(4, 0), 1), NONE);
+        due("5: row 4", wide.pair(Check.number(4, 0), Check.number(4, 1), 1), NONE);
+        due("5: rows 2, 3", wide.pair(Check.number(2, 6), Check.number(3, 6), 1), 120);
     }
 
     private static void worst(String told, GoreGlobe globe, int off, int lesser, int greater) {
@@ -255,10 +243,10 @@ final class PlacesTest {
 
     private static void promise6() {
         worst("at first", new GoreGlobe(), 3, 1, 25);
-        worst("2 strips, no caps", told(60, 2, 0), 101, 0, 1);
-        worst("12 strips, 3 caps", told(60, 12, 3), 1, 49, 73);
-        worst("8 strips, 3 caps", told(60, 8, 3), 3, 49, 73);
-        worst("all are like", told(10, 12, 3), 0, 49, 50);
+        worst("2 strips, no caps", Check.told(60, 2, 0), 101, 0, 1);
+        worst("12 strips, 3 caps", Check.told(60, 12, 3), 1, 49, 73);
+        worst("8 strips, 3 caps", Check.told(60, 8, 3), 3, 49, 73);
+        worst("all are like", Check.told(10, 12, 3), 0, 49, 50);
         due("6: -1", new GoreGlobe().worst(-1), BAD);
         due("6: 3", new GoreGlobe().worst(3), BAD);
     }

@@ -2,9 +2,6 @@
 final class WaysTest {
     private static final int BAD = GoreGlobe.BAD, NONE = GoreGlobe.NONE;
     private static final Check CHECK = new Check();
-    /** All places, in just the 90 letters that a tape takes. */
-    private static final String ALL = "-6:0;-5:0-23;-4:0-23;-3:0-23;-2:0-23;-1:0-23;"
-        + "0:0-23;1:0-23;2:0-23;3:0-23;4:0-23;5:0-23;6:0";
 
     public static void main(String[] args) {
         promise7();
@@ -85,7 +82,7 @@ final class WaysTest {
         due("8: the rest's least", globe.sea(1, 1), 4);
         due("8: a place's sea", globe.place(6, 9, 2), 1);
         due("8: hanging together by 23 and 0", globe.place(-5, 23, 2), 1);
-        due("8: all land", Check.read(globe, ALL), 266);
+        due("8: all land", Check.read(globe, Check.ALL), 266);
         due("8: no sea", globe.sea(0, 0), BAD);
         due("8: no seas", globe.count(4), 0);
         due("8: -1", new GoreGlobe().sea(-1, 0), BAD);
