@@ -618,12 +618,19 @@ final class DoneEdgesTest {
             full.undo();
         }
         due("24: nothing may be undone", full.count(6), 0);
-        due("25: restore", full.restore(), 1);
-        for (int left = 5; left >= 0; left--) {
-            due("25: what may be undone is back", full.undo(), left);
-            due("25: stops then", full.route(0), left + 2);
+        for (int turns = 0; turns <= 9; turns++) {
+            // Whatever was done since, by how many turns: the latest six are known as they were.
+            if (turns > 0) {
+                full.drift(turns);
+            }
+            due("25: restore", full.restore(), 1);
+            for (int left = 5; left >= 0; left--) {
+                due("25: what may be undone is back", full.undo(), left);
+                due("25: stops then", full.route(0), left + 2);
+                due("25: land then", full.count(3), 0);
+            }
+            due("25: six and no more", full.undo(), NONE);
         }
-        due("25: six and no more", full.undo(), NONE);
     }
 
     private static void restoreAgain() {

@@ -2,7 +2,7 @@ import java.util.Random;
 
 /** Promises 1 to 31: long runs of drawn calls, good ones and wild ones, answered as Model answers them. */
 final class ModelTest {
-    private static final int RUNS = 1600, CALLS = 512;
+    private static final int RUNS = 1600, CALLS = 512, MAPS = 400;
     private static final int[] WILD = {Integer.MIN_VALUE, Integer.MIN_VALUE + 1, -1000000, -7, -2, -1, 0, 1, 2, 3, 4, 5, 6,
         7, 8, 9, 12, 23, 24, 25, 30, 31, 41, 90, 265, 266, 267, 4096, 10000, 10001, 1 << 30, Integer.MAX_VALUE - 1,
         Integer.MAX_VALUE};
@@ -24,6 +24,9 @@ final class ModelTest {
         Check check = new Check();
         for (int u = 10; u <= 200; u++) {
             allPaper(check, u);
+        }
+        for (int map = 0; map < MAPS && !check.isWrong(); map++) {
+            waysOf(check, map);
         }
         for (int run = 0; run < RUNS && !check.isWrong(); run++) {
             ModelTest test = new ModelTest(check, run);
@@ -58,6 +61,27 @@ final class ModelTest {
             }
             for (int what = 0; what <= 2; what++) {
                 check.due("worst " + u + " " + strips + " " + caps, globe.worst(what), model.worst(what));
+            }
+        }
+    }
+
+    /** Ways on a drawn map: from little land to so much that seas fall apart. */
+    private static void waysOf(Check check, int map) {
+        Random random = new Random(map);
+        GoreGlobe globe = new GoreGlobe();
+        Model model = new Model();
+        int u = 10 + random.nextInt(map % 2 == 0 ? 20 : 191);
+        check.due("tell", globe.tell(0, u), model.tell(0, u));
+        check.due("seed", globe.seed(map), model.seed(map));
+        for (int drifts = map % 8; drifts > 0; drifts--) {
+            check.due("drift", globe.drift(25), model.drift(25));
+        }
+        for (int i = 0; i < 40; i++) {
+            int from = random.nextInt(266);
+            int to = random.nextInt(266);
+            for (int what = 0; what <= 2; what++) {
+                String told = "map " + map + ": way " + from + " " + to + " " + what;
+                check.due(told, globe.way(from, to, what), model.way(from, to, what));
             }
         }
     }

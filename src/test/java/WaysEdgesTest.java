@@ -347,8 +347,10 @@ final class WaysEdgesTest {
             }
             due("10: no way to stop " + shut, globe.route(1), NONE);
             due("10: how many all the same", globe.route(0), 8);
-            due("11: no length", globe.rolled(1, 0), NONE);
-            due("11: no length", globe.rolled(10000, 1), NONE);
+            for (int v : new int[] {1, 2, 3, 4, 10000}) {
+                due("11: no length to turn " + v, globe.rolled(v, 0), NONE);
+                due("11: no length over " + v, globe.rolled(v, 1), NONE);
+            }
             globe.out(265);
             CHECK.holds("10: a length without it", globe.route(1) > 0);
         }
@@ -425,6 +427,11 @@ final class WaysEdgesTest {
                 globe.land(121 + (m + 23) % 24, 1);
                 lost("m " + m + " and west of it, n " + n, globe, 5, 1, 2);
             }
+            GoreGlobe twice = Check.told(60, n, 1);
+            Check.read(twice, "0:0;1:0");
+            lost("two that are cut alike, n " + n, twice, 5, 3, 4);
+            Check.read(twice, "0:1;1:1");
+            lost("two on one strip, n " + n, twice, 5, 1, 2);
             GoreGlobe ring = Check.told(60, n, 1);
             for (int m = 0; m < 24; m += w) {
                 ring.land(121 + m, 1);
@@ -448,6 +455,8 @@ final class WaysEdgesTest {
             lost("north pole, n " + n, globe, 5, (1L << n) - 1, 1L << n);
             lost("north pole, all lost", globe, 10, 0, 1);
             lost("north pole, none lost", globe, 0, 1, 1);
+            Check.read(globe, "-6:0");
+            lost("south pole, n " + n, globe, 5, (1L << n) - 1, 1L << n);
             Check.read(globe, "6:0;-6:0");
             lost("both poles, n " + n, globe, 5, (1L << n) - 1, 1L << n);
             Check.read(globe, "6:0;-6:0;0:0");
