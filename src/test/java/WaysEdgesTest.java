@@ -270,6 +270,9 @@ final class WaysEdgesTest {
         way("eastwards or westwards, from 0", globe, 121, 133, 1440, 12, 122);
         way("eastwards or westwards, from 23", globe, 144, 132, 1440, 12, 121);
         way("eastwards or westwards, from 5", globe, 126, 138, 1440, 12, 125);
+        // A wall between 20 and 23: from 0, 21 to 4, 23 it is as far, by as many steps, as to 5, 20 beside the pole.
+        globe = globeOf("1:21-22;2:21-22;3:21-22;4:21-22;5:21-22");
+        way("no place but a neighbour comes first", globe, 265, 142, 840, 7, 261);
         GoreGlobe like = Check.told(10, 12, 1);
         // Row 0 is 20 a step, as between rows; over row 1 or -1 it is 19 a step and 40 more.
         way("in the row", like, 121, 122, 20, 1, 122);
